@@ -450,13 +450,12 @@ public final class TaskCores {
         }
     }
 
+    /**
+     * CHAIN to the task itself needs no case of its own: its end takes one from those that are
+     * WANTED, if there is one, and activating it then puts that one back.
+     */
     private void chain(Task task, int number) {
         Task other = taskOf(number);
-        if (other == task) {
-            suspend(task);
-            startTask(task);
-            return;
-        }
         if (other == null) {
             tellCode(NO_SUCH_TASK, task);
         }
@@ -569,15 +568,19 @@ public final class TaskCores {
     }
 
     private void endTask(Task task) {
-        suspend(task);
+        if (freeAll(task)) {
+            tellCode(ENDED_HOLDING, task);
+        }
+        task.state = SUSPENDED;
+        task.core.runner = null;
         if (task.wanted > 0) {
             task.wanted--;
             startTask(task);
         }
     }
 
-    /** All of a task's end but for the activation that may be WANTED: CHAIN to itself leaves that. */
-    private void suspend(Task task) {
+    /** True if the task held something. */
+    private boolean freeAll(Task task) {
         boolean held = task.lastGot != null || task.lockCount > 0;
         for (Resource at = task.lastGot; at != null; at = at.gotBefore) {
             at.owner = null;
@@ -593,17 +596,12 @@ public final class TaskCores {
             interrupts.offBy = null;
             held = true;
         }
-        if (held) {
-            codes.add(ENDED_HOLDING, task.number, time);
-        }
-        task.state = SUSPENDED;
-        task.core.runner = null;
+        return held;
     }
 
     private void startTask(Task task) {
         task.events = 0;
         task.part = task.start;
-        task.spent = 0;
         makeReady(task);
     }
 
@@ -695,6 +693,8 @@ public final class TaskCores {
 
         /** The next part, or the one that it is at; null behind the last one. */
         Part part;
+
+        /** Microseconds of its RUN that went by; 0 in all other parts. */
         int spent;
         int state = SUSPENDED;
         int turn;

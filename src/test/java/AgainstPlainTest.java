@@ -58,14 +58,32 @@ public final class AgainstPlainTest {
             Check.due(name + "manner", x.manner(task, full), 1);
             plain.manner(task, full);
         }
+        boolean orderly = random.nextBoolean();
         int parts = random.nextInt(tasks * 6);
         for (int i = 0; i < parts; i++) {
             int task = 1 + random.nextInt(tasks);
-            int kind = random.nextInt(3) == 0 ? 0 : random.nextInt(14);
-            long v = value(kind);
-            plain.part(task, kind, v);
-            Check.due(name + "part", x.part(task, kind, v), plain.tasks.get(task - 1).parts.size());
+            if (orderly && random.nextBoolean()) {
+                addPair(task);
+            } else {
+                int kind = random.nextInt(3) == 0 ? 0 : random.nextInt(14);
+                addPart(task, kind, value(kind));
+            }
         }
+    }
+
+    /** GET and FREE, LOCK and UNLOCK, or OFF and ON, with something between them. */
+    private void addPair(int task) {
+        int first = new int[] {6, 8, 8, 12}[random.nextInt(4)];
+        long v = value(first);
+        addPart(task, first, v);
+        int between = random.nextInt(4) == 0 ? random.nextInt(14) : 0;
+        addPart(task, between, value(between));
+        addPart(task, first + 1, first == 12 ? 0 : v);
+    }
+
+    private void addPart(int task, int kind, long v) {
+        plain.part(task, kind, v);
+        Check.due(name + "part", x.part(task, kind, v), plain.tasks.get(task - 1).parts.size());
     }
 
     private long value(int kind) {

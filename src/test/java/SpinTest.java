@@ -7,6 +7,8 @@ public final class SpinTest {
         alsoWhenItDoesNotRun();
         codes();
         endGivesTheLocksOn();
+        heldOnceIsNotHeldAgain();
+        againAndAgain();
         twoOfOneCore();
         Check.end();
     }
@@ -121,6 +123,45 @@ public final class SpinTest {
         Check.due("codes", Check.codes(x), "3:1:5 3:3:6");
         Check.due("switches", Check.switches(x), "0:0:1 0:1:2 0:2:3 5:0:0 6:1:0 6:2:0");
         Check.due("nobody has it", x.spin(2, 1), 0);
+    }
+
+    /** It ends with the lock at 2; activated anew it holds nothing, so that it may wait. */
+    private static void heldOnceIsNotHeldAgain() {
+        TaskCores x = new TaskCores(1);
+        Check.taskWith(x, 1, 0, true, 3, 1, 8, 1);
+        x.activate(1, 0);
+        x.run(2);
+        x.event(1, 1);
+        x.run(2);
+        x.activate(1, 4);
+        x.run(4);
+        Check.due("it may wait", x.state(1), 3);
+        Check.due("codes", Check.codes(x), "3:1:2");
+    }
+
+    /** Three cores ask for one lock over and over: each waits behind those that asked before it. */
+    private static void againAndAgain() {
+        TaskCores x = new TaskCores(3);
+        Check.taskWith(x, 1, 0, false, 8, 1, 0, 2, 9, 1, 8, 1, 0, 2, 9, 1, 8, 1, 0, 2, 9, 1);
+        Check.taskWith(x, 1, 1, false, 8, 1, 0, 2, 9, 1, 8, 1, 0, 2, 9, 1);
+        Check.taskWith(x, 1, 2, false, 8, 1, 0, 2, 9, 1);
+        for (int task = 1; task <= 3; task++) {
+            x.activate(task, 0);
+        }
+        x.run(4);
+        owners(x, "at 4", -1, 2, -3);
+        x.run(2);
+        owners(x, "at 6", -1, -2, 3);
+        x.run(2);
+        owners(x, "at 8", 1, -2, 0);
+        x.run(2);
+        owners(x, "at 10", -1, 2, 0);
+        x.run(2);
+        owners(x, "at 12", 1, 0, 0);
+        x.run(2);
+        owners(x, "at 14", 0, 0, 0);
+        Check.due("switches", Check.switches(x), "0:0:1 0:1:2 0:2:3 7:2:0 11:1:0 13:0:0");
+        Check.due("codes", Check.codes(x), "");
     }
 
     /** The higher one spins for what the lower one of its core has, for ever: the lower is told. */
