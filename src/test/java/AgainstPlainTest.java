@@ -1,8 +1,15 @@
 import java.util.Random;
 
-/** Runs of calls by fixed seeds, on the program and on PlainKernel: all answers must be the same. */
+/**
+ * Runs of calls by fixed seeds, on the program and on PlainKernel: all answers must be the same.
+ * Some of the calls are to be refused. An object has its 512 calls and no more.
+ */
 public final class AgainstPlainTest {
-    private static final int RUNS = 6000;
+    private static final int RUNS = 8000;
+    private static final int CALLS = 512;
+    private static final long[] ODD = {-1, 0, 1, 2, 3, 4, 8, 9, 13, 14, 15, 16, 17, 32, 33, 100, 101, 255, 256,
+        10000, 10001, 49999, 50000, 50001, 65535, 65536, 65537, 131072, 131073, 6619135, 6619136,
+        Integer.MIN_VALUE, Integer.MAX_VALUE, 1L << 32, (1L << 32) + 1, Long.MIN_VALUE, Long.MAX_VALUE};
 
     private final Random random;
     private final String name;
@@ -12,16 +19,18 @@ public final class AgainstPlainTest {
     private final int resources;
     private final TaskCores x;
     private final PlainKernel plain;
+    private int calls;
 
     private AgainstPlainTest(long seed) {
         random = new Random(seed);
-        name = "seed " + seed + ": ";
-        cores = 1 + random.nextInt(random.nextBoolean() ? 2 : 8);
+        name = "seed " + seed + ", call ";
+        int told = oneIn(10) ? (int) odd() : 1 + random.nextInt(random.nextBoolean() ? 2 : 8);
+        x = new TaskCores(told);
+        plain = new PlainKernel(told);
+        cores = plain.cores;
         tasks = 1 + random.nextInt(random.nextInt(4) == 0 ? 20 : 6);
         locks = 1 + random.nextInt(3);
         resources = 1 + random.nextInt(4);
-        x = new TaskCores(cores);
-        plain = new PlainKernel(cores);
     }
 
     public static void main(String[] args) {
@@ -36,37 +45,60 @@ public final class AgainstPlainTest {
     private void compare() {
         makeTasks();
         int stretches = 1 + random.nextInt(5);
-        for (int i = 0; i < stretches; i++) {
+        for (int i = 0; i < stretches && calls < 400; i++) {
             tellThings();
-            int micros = random.nextInt(random.nextInt(3) == 0 ? 300 : 40);
-            Check.due(name + "run(" + micros + ")", x.run(micros), plain.run(micros));
-            compareStates();
+            long micros = random.nextInt(random.nextInt(3) == 0 ? 300 : 40);
+            run(random.nextInt(1000) == 0 ? 50000 - plain.now() : micros);
+            for (int question = 0; question < 20; question++) {
+                ask();
+            }
         }
-        compareHistory();
+        while (calls < CALLS) {
+            ask();
+        }
+    }
+
+    private void due(String call, long got, long want) {
+        calls++;
+        Check.due(name + calls + ": " + call, got, want);
+    }
+
+    private boolean oneIn(int n) {
+        return random.nextInt(n) == 0;
+    }
+
+    private long odd() {
+        return ODD[random.nextInt(ODD.length)];
+    }
+
+    /** Mostly a number from the first one on, sometimes any. */
+    private int oneOf(int first, int count) {
+        return oneIn(12) ? (int) odd() : first + random.nextInt(count);
     }
 
     private void makeTasks() {
         int ranks = 1 + random.nextInt(6);
-        for (int task = 1; task <= tasks; task++) {
-            int rank = random.nextInt(ranks);
-            int core = random.nextInt(cores);
-            boolean extended = random.nextInt(3) == 0;
-            int bound = extended ? 1 : 1 + random.nextInt(3);
-            Check.due(name + "task", x.task(rank, core, bound, extended), task);
-            plain.task(rank, core, bound, extended);
-            boolean full = random.nextInt(3) != 0;
-            Check.due(name + "manner", x.manner(task, full), 1);
-            plain.manner(task, full);
+        for (int made = 0; made < tasks; ) {
+            int rank = oneOf(0, ranks);
+            int core = oneOf(0, cores);
+            boolean extended = oneIn(3);
+            int bound = extended && !oneIn(9) ? 1 : oneOf(1, 3);
+            int answer = plain.task(rank, core, bound, extended);
+            due("task", x.task(rank, core, bound, extended), answer);
+            made += answer > 0 ? 1 : 0;
+            int changed = oneIn(9) ? oneOf(1, tasks) : made;
+            boolean full = !oneIn(3);
+            due("manner", x.manner(changed, full), plain.manner(changed, full));
         }
         boolean orderly = random.nextBoolean();
         int parts = random.nextInt(tasks * 6);
-        for (int i = 0; i < parts; i++) {
-            int task = 1 + random.nextInt(tasks);
+        for (int i = 0; i < parts && calls < 250; i++) {
+            int task = oneOf(1, tasks);
             if (orderly && random.nextBoolean()) {
                 addPair(task);
             } else {
-                int kind = random.nextInt(3) == 0 ? 0 : random.nextInt(14);
-                addPart(task, kind, value(kind));
+                int kind = oneIn(3) ? 0 : oneOf(0, 14);
+                addPart(task, kind, oneIn(12) ? odd() : value(kind));
             }
         }
     }
@@ -76,28 +108,27 @@ public final class AgainstPlainTest {
         int first = new int[] {6, 8, 8, 12}[random.nextInt(4)];
         long v = value(first);
         addPart(task, first, v);
-        int between = random.nextInt(4) == 0 ? random.nextInt(14) : 0;
+        int between = oneIn(4) ? random.nextInt(14) : 0;
         addPart(task, between, value(between));
         addPart(task, first + 1, first == 12 ? 0 : v);
     }
 
     private void addPart(int task, int kind, long v) {
-        plain.part(task, kind, v);
-        Check.due(name + "part", x.part(task, kind, v), plain.tasks.get(task - 1).parts.size());
+        due("part", x.part(task, kind, v), plain.part(task, kind, v));
     }
 
     private long value(int kind) {
         switch (kind) {
             case 0:
-                return 1 + random.nextInt(random.nextInt(4) == 0 ? 30 : 4);
+                return 1 + random.nextInt(oneIn(4) ? 30 : 4);
             case 1:
             case 2:
-                return 1 + random.nextInt(random.nextInt(8) == 0 ? 100 : tasks);
+                return 1 + random.nextInt(oneIn(8) ? 100 : tasks);
             case 3:
             case 5:
                 return 1 + random.nextInt(7);
             case 4:
-                return 65536L * (1 + random.nextInt(random.nextInt(8) == 0 ? 100 : tasks)) + 1 + random.nextInt(7);
+                return 65536L * (1 + random.nextInt(oneIn(8) ? 100 : tasks)) + 1 + random.nextInt(7);
             case 6:
             case 7:
                 return 1 + random.nextInt(resources);
@@ -112,56 +143,83 @@ public final class AgainstPlainTest {
     }
 
     private void tellThings() {
-        int activations = random.nextInt(tasks * 3);
+        int activations = random.nextInt(Math.min(20, tasks * 3));
         for (int i = 0; i < activations; i++) {
-            int task = 1 + random.nextInt(tasks);
-            long t = plain.now + random.nextInt(60);
-            Check.due(name + "activate", x.activate(task, t), 1);
-            plain.activate(task, t);
+            int task = oneOf(1, tasks);
+            long t = oneIn(20) ? odd() : plain.now() + random.nextInt(60);
+            due("activate", x.activate(task, t), plain.activate(task, t));
         }
         int interrupts = random.nextInt(4);
         for (int i = 0; i < interrupts; i++) {
-            int level = random.nextBoolean() ? 1 + random.nextInt(15) : 6 + random.nextInt(3);
-            long at = plain.now + random.nextInt(40);
-            long micros = 1 + random.nextInt(9);
-            plain.interrupt(level, at, micros);
-            Check.due(name + "interrupt", x.interrupt(level, at, micros), plain.interrupts.size());
+            int level = random.nextBoolean() ? oneOf(1, 15) : oneOf(6, 3);
+            long at = oneIn(20) ? odd() : plain.now() + random.nextInt(40);
+            long micros = oneIn(20) ? odd() : 1 + random.nextInt(9);
+            due("interrupt", x.interrupt(level, at, micros), plain.interrupt(level, at, micros));
         }
         int events = random.nextInt(3);
         for (int i = 0; i < events; i++) {
-            int task = 1 + random.nextInt(tasks);
-            int e = 1 + random.nextInt(7);
-            Check.due(name + "event", x.event(task, e), plain.event(task, e) ? 1 : -3);
+            int task = oneOf(1, tasks);
+            int e = oneOf(1, 7);
+            due("event", x.event(task, e), plain.event(task, e));
+        }
+        if (oneIn(4)) {
+            tellTooLate();
+        }
+        if (oneIn(4)) {
+            run(oneIn(2) ? -1 : 50001 - plain.now());
         }
     }
 
-    private void compareStates() {
-        Check.due(name + "now()", x.now(), plain.now);
-        for (PlainKernel.Task t : plain.tasks) {
-            String of = "(" + t.number + ") at " + plain.now;
-            Check.due(name + "state" + of, x.state(t.number), t.state);
-            Check.due(name + "used" + of, x.used(t.number), t.used);
-            Check.due(name + "events" + of, x.events(t.number), t.events);
-        }
-        for (int lock = 1; lock <= locks; lock++) {
-            for (int core = 0; core < cores; core++) {
-                Check.due(name + "spin(" + core + ", " + lock + ")", x.spin(core, lock), plain.spin(core, lock));
-            }
-        }
-        for (int resource = 1; resource <= resources; resource++) {
-            Check.due(name + "holder(" + resource + ")", x.holder(resource), plain.holder(resource));
+    private void tellTooLate() {
+        if (plain.now() > 0) {
+            due("task", x.task(1, 0, 1, false), plain.task(1, 0, 1, false));
+            due("part", x.part(1, 0, 1), plain.part(1, 0, 1));
+            due("manner", x.manner(1, false), plain.manner(1, false));
         }
     }
 
-    private void compareHistory() {
-        Check.due(name + "how many codes", x.code(-1, 0), plain.codes.size());
-        int kept = Math.min(1000, plain.codes.size());
-        Check.due(name + "codes", Check.codes(x), String.join(" ", plain.codes.subList(0, kept)));
-        Check.due(name + "switches", Check.switches(x), String.join(" ", plain.switches));
-        for (int t = 0; t < plain.now; t++) {
-            for (int core = 0; core < cores; core++) {
-                Check.due(name + "running(" + core + ", " + t + ")", x.running(core, t), plain.whos.get(t)[core]);
-            }
+    private void run(long micros) {
+        due("run(" + micros + ")", x.run(micros), plain.run(micros));
+    }
+
+    private void ask() {
+        int task = oneOf(1, tasks);
+        int core = oneOf(0, cores);
+        int what = oneOf(0, 3);
+        switch (random.nextInt(10)) {
+            case 0:
+                due("now()", x.now(), plain.now());
+                break;
+            case 1:
+                long t = oneIn(12) ? odd() : random.nextInt((int) plain.now() + 1);
+                due("running(" + core + ", " + t + ")", x.running(core, t), plain.running(core, t));
+                break;
+            case 2:
+                due("used(" + task + ")", x.used(task), plain.used(task));
+                break;
+            case 3:
+                due("state(" + task + ")", x.state(task), plain.state(task));
+                break;
+            case 4:
+                due("events(" + task + ")", x.events(task), plain.events(task));
+                break;
+            case 5:
+            case 6:
+                int code = oneOf(-1, Math.min(1000, plain.codes.size()) + 2);
+                due("code(" + code + ", " + what + ")", x.code(code, what), plain.code(code, what));
+                break;
+            case 7:
+                int order = oneOf(-1, plain.switches.size() + 2);
+                due("order(" + order + ", " + what + ")", x.order(order, what), plain.order(order, what));
+                break;
+            case 8:
+                int lock = oneOf(1, locks);
+                due("spin(" + core + ", " + lock + ")", x.spin(core, lock), plain.spin(core, lock));
+                break;
+            default:
+                int resource = oneOf(1, resources);
+                due("holder(" + resource + ")", x.holder(resource), plain.holder(resource));
+                break;
         }
     }
 }

@@ -6,7 +6,7 @@ import java.util.List;
 
 /**
  * The document once more, as plainly as it can be written: one microsecond after the other, and
- * every list looked through anew. It takes only calls that are not refused.
+ * every list looked through anew.
  */
 final class PlainKernel {
     static final int SUSPENDED = 0;
@@ -39,8 +39,8 @@ final class PlainKernel {
     final List<Task> tasks = new ArrayList<>();
     final List<long[]> told = new ArrayList<>();
     final List<long[]> interrupts = new ArrayList<>();
-    final List<String> codes = new ArrayList<>();
-    final List<String> switches = new ArrayList<>();
+    final List<int[]> codes = new ArrayList<>();
+    final List<int[]> switches = new ArrayList<>();
     final List<int[]> whos = new ArrayList<>();
     final Task[] lockOwners = new Task[17];
     final List<List<Task>> queues = new ArrayList<>();
@@ -51,13 +51,25 @@ final class PlainKernel {
     int budget;
 
     PlainKernel(int cores) {
-        this.cores = cores;
+        this.cores = cores >= 1 && cores <= 8 ? cores : 1;
         for (int i = 0; i < 17; i++) {
             queues.add(new ArrayList<>());
         }
     }
 
-    void task(int rank, int core, int activations, boolean extended) {
+    int task(int rank, int core, int activations, boolean extended) {
+        if (!isCore(core)) {
+            return -1;
+        }
+        if (!within(rank, 0, 255) || !within(activations, 1, 100) || extended && activations > 1) {
+            return -2;
+        }
+        if (now > 0) {
+            return -3;
+        }
+        if (tasks.size() == 100) {
+            return -4;
+        }
         Task t = new Task();
         t.number = tasks.size() + 1;
         t.rank = rank;
@@ -65,34 +77,92 @@ final class PlainKernel {
         t.bound = activations;
         t.extended = extended;
         tasks.add(t);
+        return t.number;
     }
 
-    void part(int task, int kind, long v) {
-        tasks.get(task - 1).parts.add(new long[] {kind, v});
-    }
-
-    void manner(int task, boolean full) {
-        tasks.get(task - 1).full = full;
-    }
-
-    void activate(int task, long t) {
-        told.add(new long[] {task, t});
-    }
-
-    void interrupt(int level, long at, long micros) {
-        interrupts.add(new long[] {level, at, micros});
-    }
-
-    boolean event(int task, int e) {
-        Task t = tasks.get(task - 1);
-        if (!t.extended || t.state == SUSPENDED) {
-            return false;
+    int part(int task, int kind, long v) {
+        if (!isTask(task)) {
+            return -1;
         }
-        set(t, e);
-        return true;
+        if (!mayBeThere(kind, v)) {
+            return -2;
+        }
+        if (now > 0) {
+            return -3;
+        }
+        int count = 0;
+        for (Task t : tasks) {
+            count += t.parts.size();
+        }
+        if (count == 500) {
+            return -4;
+        }
+        tasks.get(task - 1).parts.add(new long[] {kind, v});
+        return tasks.get(task - 1).parts.size();
+    }
+
+    private static boolean mayBeThere(int kind, long v) {
+        if (kind == 0 || kind == 12) {
+            return within(v, 1, 50000);
+        }
+        if (kind == 1 || kind == 2) {
+            return within(v, 1, 100);
+        }
+        if (kind == 3 || kind == 5) {
+            return within(v, 1, 65535);
+        }
+        if (kind == 4) {
+            return v > 0 && within(v / 65536, 1, 100) && v % 65536 != 0;
+        }
+        if (kind == 6 || kind == 7) {
+            return within(v, 1, 32);
+        }
+        if (kind == 8 || kind == 9) {
+            return within(v, 1, 16);
+        }
+        return (kind == 10 || kind == 11 || kind == 13) && v == 0;
+    }
+
+    int manner(int task, boolean full) {
+        if (!isTask(task)) {
+            return -1;
+        }
+        if (now > 0) {
+            return -3;
+        }
+        tasks.get(task - 1).full = full;
+        return 1;
+    }
+
+    int activate(int task, long t) {
+        if (!isTask(task)) {
+            return -1;
+        }
+        if (!within(t, now, 50000)) {
+            return -2;
+        }
+        if (told.size() == 500) {
+            return -4;
+        }
+        told.add(new long[] {task, t});
+        return 1;
+    }
+
+    int interrupt(int level, long at, long micros) {
+        if (!within(level, 1, 15) || !within(at, now, 50000) || !within(micros, 1, 10000)) {
+            return -2;
+        }
+        if (interrupts.size() == 500) {
+            return -4;
+        }
+        interrupts.add(new long[] {level, at, micros});
+        return interrupts.size();
     }
 
     int run(long micros) {
+        if (!within(micros, 0, 50000 - now)) {
+            return -2;
+        }
         int before = switches.size();
         for (long i = 0; i < micros; i++) {
             microsecond();
@@ -100,7 +170,69 @@ final class PlainKernel {
         return switches.size() - before;
     }
 
+    long now() {
+        return now;
+    }
+
+    int running(int core, long t) {
+        if (!isCore(core)) {
+            return -1;
+        }
+        return within(t, 0, now - 1) ? whos.get((int) t)[core] : -2;
+    }
+
+    long used(int task) {
+        return isTask(task) ? tasks.get(task - 1).used : -1;
+    }
+
+    int state(int task) {
+        return isTask(task) ? tasks.get(task - 1).state : -1;
+    }
+
+    int event(int task, int e) {
+        if (!isTask(task)) {
+            return -1;
+        }
+        if (!within(e, 1, 65535)) {
+            return -2;
+        }
+        Task t = tasks.get(task - 1);
+        if (!t.extended || t.state == SUSPENDED) {
+            return -3;
+        }
+        set(t, e);
+        return 1;
+    }
+
+    int events(int task) {
+        return isTask(task) ? tasks.get(task - 1).events : -1;
+    }
+
+    int code(int i, int what) {
+        return i >= 1000 ? -1 : row(codes, i, what);
+    }
+
+    int order(int i, int what) {
+        return row(switches, i, what);
+    }
+
+    private static int row(List<int[]> rows, int i, int what) {
+        if (i == -1 && what == 0) {
+            return rows.size();
+        }
+        if (!within(i, 0, rows.size() - 1)) {
+            return -1;
+        }
+        return within(what, 0, 2) ? rows.get(i)[what] : -2;
+    }
+
     int spin(int core, int lock) {
+        if (!isCore(core)) {
+            return -1000;
+        }
+        if (!within(lock, 1, 16)) {
+            return -2000;
+        }
         if (lockOwners[lock] != null && lockOwners[lock].core == core) {
             return lockOwners[lock].number;
         }
@@ -113,12 +245,27 @@ final class PlainKernel {
     }
 
     int holder(int resource) {
+        if (!within(resource, 1, 32)) {
+            return -2;
+        }
         for (Task t : tasks) {
             if (t.resources.contains(resource)) {
                 return t.number;
             }
         }
         return 0;
+    }
+
+    private static boolean within(long number, long least, long most) {
+        return number >= least && number <= most;
+    }
+
+    private boolean isCore(int core) {
+        return within(core, 0, cores - 1);
+    }
+
+    private boolean isTask(int task) {
+        return within(task, 1, tasks.size());
     }
 
     private void microsecond() {
@@ -155,7 +302,7 @@ final class PlainKernel {
             }
             int last = now == 0 ? 0 : whos.get(now - 1)[core];
             if (last != who[core]) {
-                switches.add(now + ":" + core + ":" + who[core]);
+                switches.add(new int[] {now, core, who[core]});
             }
         }
         whos.add(who);
@@ -424,6 +571,6 @@ final class PlainKernel {
     }
 
     private void tell(int code, Task t) {
-        codes.add(code + ":" + t.number + ":" + now);
+        codes.add(new int[] {code, t.number, now});
     }
 }
