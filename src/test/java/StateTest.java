@@ -22,7 +22,7 @@ public final class StateTest {
     /** "0 SUSPENDED (at first), 1 READY, 2 RUNNING, 3 WAITING". */
     private static void allFour() {
         TaskCores x = new TaskCores(1);
-        Check.extended(x, 5, 0, "WAIT 1, RUN 1");
+        Check.extended(x, 5, 0, "WAIT 1, RUN 2");
         Check.task(x, 2, 0, "RUN 9");
         x.activate(1, 1);
         x.activate(2, 0);
