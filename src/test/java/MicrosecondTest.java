@@ -10,6 +10,7 @@ public final class MicrosecondTest {
         manyStepsInOne();
         manyEndsInOne();
         chosenAnewForEachStep();
+        chosenBehindTheSteps();
         aPartWithACodeIsPassedOver();
         Check.end();
     }
@@ -158,6 +159,18 @@ public final class MicrosecondTest {
         x.run(9);
         Check.due("codes", Check.codes(x), "6:1:1 6:2:2 6:1:2");
         Check.due("switches", Check.switches(x), "0:0:1 1:0:2 2:0:1 3:0:0");
+    }
+
+    /** "Then each core's task is chosen": what core 7 activates runs in that microsecond on core 0. */
+    private static void chosenBehindTheSteps() {
+        TaskCores x = new TaskCores(8);
+        Check.task(x, 1, 7, "RUN 2, ACTIVATE 2, RUN 1, CHAIN 3");
+        Check.task(x, 1, 0, "RUN 4");
+        Check.task(x, 2, 0, "RUN 1");
+        x.activate(1, 0);
+        x.run(20);
+        Check.due("switches", Check.switches(x), "0:7:1 3:0:2 4:0:3 4:7:0 6:0:2 10:0:0");
+        Check.due("codes", Check.codes(x), "");
     }
 
     /** "A part with a code is passed over": one of each, and the RUN behind them is done. */

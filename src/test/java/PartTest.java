@@ -17,6 +17,7 @@ public final class PartTest {
         fiveHundredOfAllTasks();
         theFirstThatFits();
         refusedIsNotInTheRow();
+        refusedTakesNoRoom();
         refusedGivesNoCeiling();
         Check.end();
     }
@@ -183,6 +184,19 @@ public final class PartTest {
         x.run(18);
         Check.due("START, 2 and 3", x.used(1), 6);
         Check.due("codes", Check.codes(x), "");
+    }
+
+    /** What was refused is not one of the 500. */
+    private static void refusedTakesNoRoom() {
+        TaskCores x = new TaskCores(1);
+        x.task(1, 0, 1, false);
+        Check.due("no task", x.part(2, 0, 1), -1);
+        Check.due("no kind", x.part(1, 14, 0), -2);
+        Check.due("no v", x.part(1, 0, 0), -2);
+        for (int i = 1; i <= 500; i++) {
+            Check.due("room for part " + i, x.part(1, 13, 0), i);
+        }
+        Check.due("no room", x.part(1, 13, 0), -4);
     }
 
     /** Task 2 of rank 5 comes between: resource 1, held by task 1, has the CEILING 1. */

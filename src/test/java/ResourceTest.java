@@ -9,6 +9,7 @@ public final class ResourceTest {
         freeThatIsNotTheLast();
         heightOfSeveral();
         theGreatestCeilingOfSeveral();
+        theGreatestRankIsTheCeiling();
         ceilingOfAnotherCore();
         ceilingOfItsOwnRank();
         ceilingAtTheEndsOfRank();
@@ -87,7 +88,8 @@ public final class ResourceTest {
     /** ".. got last of those that it holds": 1, 2, 3 are free as 3, 2, 1 alone. */
     private static void freeThatIsNotTheLast() {
         TaskCores x = new TaskCores(1);
-        Check.task(x, 1, 0, "GET 1, GET 2, GET 3, FREE 1, FREE 2, FREE 3, FREE 1, FREE 2, FREE 3, RUN 2, FREE 1, RUN 1");
+        Check.task(x, 1, 0, "GET 1, GET 2, GET 3, FREE 1, FREE 2, FREE 3, "
+            + "FREE 1, FREE 2, FREE 3, RUN 2, FREE 1, RUN 1");
         x.activate(1, 0);
         x.run(2);
         Check.due("codes at 2", Check.codes(x), "4:1:1 4:1:1 4:1:1 4:1:1");
@@ -125,6 +127,24 @@ public final class ResourceTest {
         x.activate(3, 2);
         x.run(20);
         Check.due("switches", Check.switches(x), "0:0:1 9:0:3 10:0:0");
+    }
+
+    /** "the greatest RANK of tasks with a part GET for it": the first, the middle or the last told. */
+    private static void theGreatestRankIsTheCeiling() {
+        int[][] orders = {{7, 4, 2}, {4, 7, 2}, {4, 2, 7}, {2, 7, 4}};
+        for (int[] ranks : orders) {
+            TaskCores x = new TaskCores(2);
+            for (int rank : ranks) {
+                Check.task(x, rank, 1, "GET 1, FREE 1, GET 1");
+            }
+            Check.task(x, 1, 0, "GET 1, RUN 4, FREE 1");
+            Check.task(x, 7, 0, "RUN 1");
+            x.activate(4, 0);
+            x.activate(5, 2);
+            x.run(20);
+            String name = "ranks " + ranks[0] + ", " + ranks[1] + ", " + ranks[2];
+            Check.due(name, Check.switches(x), "0:0:4 5:0:5 7:0:0");
+        }
     }
 
     /** A task of another core raises the CEILING; one of the same HEIGHT does not come between. */
