@@ -10,6 +10,7 @@ public final class ChosenTest {
         notFullIsForTheRunningOne();
         notFullUntilItWaits();
         notFullAgainstTheHighest();
+        notFullBehindEachKindOfPart();
         schedule();
         scheduleThisOnce();
         scheduleForGreaterOnesAlone();
@@ -138,6 +139,24 @@ public final class ChosenTest {
         x.activate(1, 0);
         x.run(20);
         Check.due("not between parts either", Check.switches(x), "0:0:1 4:0:2 6:0:0");
+    }
+
+    /** Task 2 is READY from 1 on; no part of task 1 but SCHEDULE lets it come between. */
+    private static void notFullBehindEachKindOfPart() {
+        String[] parts = {"RUN 1", "ACTIVATE 3", "ACTIVATE 1", "SET 1:1, WAIT 1", "SET 2:1", "CLEAR 1",
+            "GET 1", "FREE 1", "GET 1, FREE 1", "LOCK 1", "UNLOCK 1", "LOCK 1, UNLOCK 1", "OFF 9", "ON",
+            "OFF 9, ON"};
+        for (String part : parts) {
+            TaskCores x = new TaskCores(1);
+            Check.extended(x, 1, 0, "RUN 1, " + part + ", RUN 1, RUN 1");
+            Check.task(x, 9, 0, "");
+            x.manner(1, false);
+            x.activate(1, 0);
+            x.activate(2, 1);
+            x.run(20);
+            String due = part.equals("RUN 1") ? "0:0:1 5:0:2 6:0:0" : "0:0:1 4:0:2 5:0:0";
+            Check.due("behind " + part, Check.switches(x), due);
+        }
     }
 
     /** "SCHEDULE: a task that is not FULL lets those of a greater HEIGHT come between". */
