@@ -17,6 +17,9 @@ public final class AgainstPlainTest {
     private final int tasks;
     private final int locks;
     private final int resources;
+
+    /** Most tasks are on cores 0 and 1, many are not FULL, and interrupts are many and long. */
+    private final boolean crowded;
     private final TaskCores x;
     private final PlainKernel plain;
     private int calls;
@@ -31,6 +34,7 @@ public final class AgainstPlainTest {
         tasks = 1 + random.nextInt(random.nextInt(4) == 0 ? 20 : 6);
         locks = 1 + random.nextInt(3);
         resources = 1 + random.nextInt(4);
+        crowded = oneIn(3);
     }
 
     public static void main(String[] args) {
@@ -80,14 +84,14 @@ public final class AgainstPlainTest {
         int ranks = 1 + random.nextInt(6);
         for (int made = 0; made < tasks; ) {
             int rank = oneOf(0, ranks);
-            int core = oneOf(0, cores);
+            int core = oneOf(0, crowded ? Math.min(2, cores) : cores);
             boolean extended = oneIn(3);
             int bound = extended && !oneIn(9) ? 1 : oneOf(1, 3);
             int answer = plain.task(rank, core, bound, extended);
             due("task", x.task(rank, core, bound, extended), answer);
             made += answer > 0 ? 1 : 0;
             int changed = oneIn(9) ? oneOf(1, tasks) : made;
-            boolean full = !oneIn(3);
+            boolean full = !oneIn(crowded ? 2 : 3);
             due("manner", x.manner(changed, full), plain.manner(changed, full));
         }
         boolean orderly = random.nextBoolean();
@@ -95,7 +99,7 @@ public final class AgainstPlainTest {
         for (int i = 0; i < parts && calls < 250; i++) {
             int task = oneOf(1, tasks);
             if (orderly && random.nextBoolean()) {
-                addPair(task);
+                addPair(task, 1);
             } else {
                 int kind = oneIn(3) ? 0 : oneOf(0, 14);
                 addPart(task, kind, oneIn(12) ? odd() : value(kind));
@@ -103,11 +107,14 @@ public final class AgainstPlainTest {
         }
     }
 
-    /** GET and FREE, LOCK and UNLOCK, or OFF and ON, with something between them. */
-    private void addPair(int task) {
-        int first = new int[] {6, 8, 8, 12}[random.nextInt(4)];
+    /** GET and FREE, LOCK and UNLOCK, or OFF and ON, with something or one more pair between them. */
+    private void addPair(int task, int depth) {
+        int first = new int[] {6, 6, 8, 8, 12}[random.nextInt(5)];
         long v = value(first);
         addPart(task, first, v);
+        if (depth < 3 && oneIn(3)) {
+            addPair(task, depth + 1);
+        }
         int between = oneIn(4) ? random.nextInt(14) : 0;
         addPart(task, between, value(between));
         addPart(task, first + 1, first == 12 ? 0 : v);
@@ -149,11 +156,11 @@ public final class AgainstPlainTest {
             long t = oneIn(20) ? odd() : plain.now() + random.nextInt(60);
             due("activate", x.activate(task, t), plain.activate(task, t));
         }
-        int interrupts = random.nextInt(4);
+        int interrupts = random.nextInt(crowded ? 9 : 4);
         for (int i = 0; i < interrupts; i++) {
             int level = random.nextBoolean() ? oneOf(1, 15) : oneOf(6, 3);
             long at = oneIn(20) ? odd() : plain.now() + random.nextInt(40);
-            long micros = oneIn(20) ? odd() : 1 + random.nextInt(9);
+            long micros = oneIn(20) ? odd() : 1 + random.nextInt(crowded ? 15 : 9);
             due("interrupt", x.interrupt(level, at, micros), plain.interrupt(level, at, micros));
         }
         int events = random.nextInt(3);

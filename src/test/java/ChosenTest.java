@@ -16,6 +16,7 @@ public final class ChosenTest {
         scheduleForGreaterOnesAlone();
         scheduleOfAFullOne();
         scheduleWithAResource();
+        scheduleOfItsOwnCoreAlone();
         coresChooseTheirOwn();
         Check.end();
     }
@@ -229,6 +230,23 @@ public final class ChosenTest {
         x.run(20);
         Check.due("switches", Check.switches(x), "0:0:1 5:0:2 6:0:1 8:0:0");
         Check.due("codes", Check.codes(x), "");
+    }
+
+    /** The SCHEDULE of core 1 at 4 lets task 4 come between there; task 1 of core 0 stays to its end. */
+    private static void scheduleOfItsOwnCoreAlone() {
+        TaskCores x = new TaskCores(2);
+        Check.task(x, 1, 0, "RUN 6");
+        Check.task(x, 9, 0, "RUN 1");
+        Check.task(x, 1, 1, "RUN 3, SCHEDULE, RUN 3");
+        Check.task(x, 9, 1, "RUN 1");
+        x.manner(1, false);
+        x.manner(3, false);
+        x.activate(1, 0);
+        x.activate(3, 0);
+        x.activate(2, 2);
+        x.activate(4, 2);
+        x.run(20);
+        Check.due("switches", Check.switches(x), "0:0:1 0:1:3 4:1:4 6:1:3 7:0:2 9:0:0 9:1:0");
     }
 
     /** "CHOSEN is of all READY and RUNNING tasks of the core". */

@@ -16,6 +16,7 @@ public final class InterruptTest {
         toCoreZeroAlone();
         noStepsMeanwhile();
         chosenMeanwhile();
+        notFullStaysMeanwhile();
         Check.end();
     }
 
@@ -224,5 +225,21 @@ public final class InterruptTest {
         Check.due("the higher one at 4", x.state(2), 2);
         x.run(16);
         Check.due("switches", Check.switches(x), "0:0:1007 5:0:2 8:0:1 11:0:0");
+    }
+
+    /** "the RUNNING one, if it is not FULL": an interrupt lets no other one come between, either. */
+    private static void notFullStaysMeanwhile() {
+        TaskCores x = new TaskCores(1);
+        Check.task(x, 1, 0, "RUN 5");
+        Check.task(x, 9, 0, "RUN 1");
+        x.manner(1, false);
+        x.activate(1, 0);
+        x.activate(2, 3);
+        x.interrupt(15, 2, 3);
+        x.run(4);
+        Check.due("state(1)", x.state(1), 2);
+        Check.due("state(2)", x.state(2), 1);
+        x.run(16);
+        Check.due("switches", Check.switches(x), "0:0:1 2:0:1015 5:0:1 9:0:2 11:0:0");
     }
 }

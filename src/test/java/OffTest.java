@@ -8,6 +8,7 @@ public final class OffTest {
         onOtherCores();
         offBeforeTheInterruptComes();
         interruptBeforeOff();
+        noStepBehindOnWithAnInterruptAtHand();
         onInTime();
         onTooLate();
         budgetOfOne();
@@ -101,6 +102,21 @@ public final class OffTest {
         x.run(20);
         Check.due("switches", Check.switches(x), "0:0:1 2:0:1001 4:0:1 9:0:0");
         Check.due("OFF came at 4", Check.codes(x), "9:1:7");
+    }
+
+    /** ON at 3 lets the interrupt be at hand: the parts behind it are done at 7 and not before. */
+    private static void noStepBehindOnWithAnInterruptAtHand() {
+        TaskCores x = new TaskCores(2);
+        Check.task(x, 1, 0, "OFF 9, RUN 2, ON, GET 1, ACTIVATE 2, RUN 1, FREE 1");
+        Check.task(x, 1, 1, "RUN 1");
+        x.activate(1, 0);
+        x.interrupt(3, 2, 4);
+        x.run(4);
+        Check.due("holder(1) at 4", x.holder(1), 0);
+        Check.due("state(2) at 4", x.state(2), 0);
+        x.run(16);
+        Check.due("switches", Check.switches(x), "0:0:1 3:0:1003 7:0:1 7:1:2 8:0:0 9:1:0");
+        Check.due("codes", Check.codes(x), "");
     }
 
     private static TaskCores offFor(int micros, int budget) {

@@ -11,6 +11,8 @@ public final class ReadingsTest {
         waitWithOff();
         anotherOnePutsThemOn();
         noPlaceInTheQueueUnderAnInterrupt();
+        chosenForAStepThoughNoPartIsDone();
+        notChosenForStepsUnderAnInterrupt();
         Check.end();
     }
 
@@ -107,5 +109,35 @@ public final class ReadingsTest {
         x.run(4);
         Check.due("spin(2, 1) at 11", x.spin(2, 1), 3);
         Check.due("spin(0, 1) at 11", x.spin(0, 1), -1);
+    }
+
+    /** Task 1 is not FULL, and task 2 activates task 3, which is higher, behind core 0's STEPS at 1. */
+    private static TaskCores twoOfCoreZeroAtOne() {
+        TaskCores x = new TaskCores(2);
+        Check.task(x, 1, 0, "RUN 3");
+        Check.task(x, 1, 1, "ACTIVATE 3, RUN 1");
+        Check.task(x, 9, 0, "RUN 1");
+        x.manner(1, false);
+        x.activate(2, 0);
+        x.activate(1, 1);
+        return x;
+    }
+
+    /** A STEP chooses, even if no part can be done then: task 1 is RUNNING before task 3 is READY. */
+    private static void chosenForAStepThoughNoPartIsDone() {
+        TaskCores x = twoOfCoreZeroAtOne();
+        x.run(20);
+        Check.due("switches", Check.switches(x), "0:1:2 1:0:1 2:1:0 5:0:3 7:0:0");
+    }
+
+    /** Core 0 has no STEP, and nobody is chosen before both are READY. */
+    private static void notChosenForStepsUnderAnInterrupt() {
+        TaskCores x = twoOfCoreZeroAtOne();
+        x.interrupt(1, 1, 2);
+        x.run(2);
+        Check.due("state(1)", x.state(1), 1);
+        Check.due("state(3)", x.state(3), 2);
+        x.run(18);
+        Check.due("switches", Check.switches(x), "0:1:2 1:0:1001 2:1:0 3:0:3 5:0:1 9:0:0");
     }
 }
