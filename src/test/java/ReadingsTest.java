@@ -1,6 +1,6 @@
 /**
- * Where the document's words leave more than one reading: the one that was chosen. All other
- * tests stay clear of these cases.
+ * Where the document's words leave more than one reading: the one that was chosen. The other
+ * hand-made tests stay clear of these cases; PlainKernel reads them in the same way.
  */
 public final class ReadingsTest {
     public static void main(String[] args) {
